@@ -958,8 +958,9 @@ public final class BumperBalls {
                 places[size] = place;
                 size++;
                 costs[place] = nudges + 1;
+            } else {
+                costs[place] = Math.min(costs[place], nudges + 1);
             }
-            costs[place] = Math.min(costs[place], nudges + 1);
         }
     }
 
@@ -990,7 +991,7 @@ public final class BumperBalls {
             }
         }
 
-        /** Each pin can be a gate, which doubles the places; with all of them in a constructor an object would be dear. */
+        /** Each pin can be a gate, which doubles the places: room for six in each new object would be dear. */
         private void makeRoom(int pins) {
             int room = PUTS << Math.min(pins, MOST_PINS);
             if (room > now.places.length) {
