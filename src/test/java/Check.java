@@ -2,8 +2,11 @@
 final class Check {
     static final int NONE = -1000000, BAD = -1000001, STATE = -1000002, FULL = -1000003;
     static final int NULL = -1000011, PLACE = -1000012, KIND = -1000013, SIZE = -1000014, STORE = -1000015;
+    static final int MIN = Integer.MIN_VALUE, MAX = Integer.MAX_VALUE;
 
     private final String about;
+    private String words = "";
+    private int sentences = 0;
     private int wrong = 0;
     private int asked = 0;
 
@@ -11,11 +14,17 @@ final class Check {
         this.about = about;
     }
 
+    /** The words of the document that are asked for from here on. */
+    void sentence(String newWords) {
+        words = newWords;
+        sentences++;
+    }
+
     void due(String call, long got, long want) {
         asked++;
         if (got != want) {
             wrong++;
-            System.out.println(about + ": " + call + " answered " + got + ", due is " + want);
+            System.out.println(about + ", '" + words + "': " + call + " answered " + got + ", due is " + want);
         }
     }
 
@@ -24,7 +33,7 @@ final class Check {
     }
 
     void end() {
-        System.out.println(about + ": " + asked + " asked, " + wrong + " wrong");
+        System.out.println(about + ": " + sentences + " sentences, " + asked + " asked, " + wrong + " wrong");
         if (wrong != 0 || asked == 0) {
             System.exit(1);
         }
@@ -58,7 +67,11 @@ final class Check {
 
     /** A row of bytes with these items. */
     static void fill(BumperBalls x, int row, int... items) {
-        x.row(row, 0, items.length);
+        fill(x, row, 0, items);
+    }
+
+    static void fill(BumperBalls x, int row, int lane, int[] items) {
+        x.row(row, lane, items.length);
         for (int i = 0; i < items.length; i++) {
             x.set(row, i, items[i]);
         }

@@ -15,6 +15,7 @@ final class FaceTest {
         "count(int)", "status()");
 
     public static void main(String[] args) {
+        C.sentence("The public face");
         Class<?> face = BumperBalls.class;
         C.holds("public and final", Modifier.isPublic(face.getModifiers()) && Modifier.isFinal(face.getModifiers()));
         C.due("NONE", BumperBalls.NONE, -1000000);

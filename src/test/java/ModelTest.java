@@ -17,6 +17,7 @@ final class ModelTest {
     }
 
     public static void main(String[] args) {
+        C.sentence("all, by turns");
         for (int seed = 0; seed < RUNS; seed++) {
             new ModelTest(seed).run(seed);
         }
