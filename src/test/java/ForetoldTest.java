@@ -51,6 +51,7 @@ final class ForetoldTest {
         keptOneToTwenty();
         keptTheFewest();
         keptAtTheLastStep();
+        keptAmongGates();
         heardOneToTen();
         heardFromIOn();
         heardInSixtySteps();
@@ -148,9 +149,16 @@ final class ForetoldTest {
         ahead(x, 4, 10, DOWN, 16, 1);
         ahead(x, 5, 3, UP, 21, 2);
         ahead(x, 7, 17, RIGHT, 28, 1);
+        x.put(24, LEFT);
+        ahead(x, 3, 21, LEFT, 0, -1);
         C.due("nothing is struck", x.pin(0, 3) + x.pin(1, 3) + x.pin(2, 3), 0);
         C.due("nothing is gone", x.count(2), 0);
-        C.due("nothing can be undone", x.undo(), STATE);
+        C.due("the put alone can be undone", x.undo(), 0);
+        BumperBalls gate = Check.with("law 5;pin gate 3 3 2 5;ball 3 2 0;");
+        ahead(gate, 2, 17, DOWN, 5, 2);
+        gate.steps(1);
+        gate.put(17, UP);
+        ahead(gate, 2, 31, UP, 5, 2);
     }
 
     private static void lastsTheFewest() {
@@ -174,6 +182,10 @@ final class ForetoldTest {
         C.due("a bumper keeps it", x.lasts(0), NONE);
         BumperBalls y = Check.with("law 5;pin gate 3 0 0 1;ball 3 4 2;");
         C.due("a gate does once", y.lasts(0), 4 + 5 + 1 + 5 + 1);
+        y.steps(4);
+        C.due("open", y.pin(0, 4), 1);
+        y.put(31, DOWN);
+        C.due("an open one does not", y.lasts(0), 4 + 1);
     }
 
     private static void lastsLong() {
@@ -396,6 +408,11 @@ final class ForetoldTest {
             C.due("nudged(1, " + bad + ")", x.nudged(1, bad), BAD);
         }
         C.due("nudged(0, 8)", x.nudged(0, 8), 0);
+        x.steps(8);
+        C.due("open", x.pin(0, 4), 1);
+        x.put(16, RIGHT);
+        C.due("through the open gate: not in three", x.nudged(1, 3), NONE);
+        C.due("in four", x.nudged(1, 4), 0);
     }
 
     private static void nudgedLetters() {
@@ -452,6 +469,9 @@ final class ForetoldTest {
         C.due("nudged(6, 1)", far.nudged(6, 1), NONE);
         C.due("by turns", far.nudged(6, 10), 1);
         C.due("there and back", far.nudged(6, 11), 0);
+        BumperBalls two = Check.with("law 1;pin righter 5 5 1 1;ball 4 5 2;");
+        C.due("in nine", two.nudged(1, 9), 3);
+        C.due("to the other side and back: in ten", two.nudged(1, 10), 1);
         BumperBalls down = Check.with("law 5;pin lamp 0 5 6 50;ball 2 0 2;");
         C.due("left, up: in six", down.nudged(6, 6), NONE);
         C.due("left, up: in seven", down.nudged(6, 7), 2);
@@ -513,6 +533,9 @@ final class ForetoldTest {
         C.due("kept(16)", x.kept(16), 3);
         C.due("kept(20)", x.kept(20), 3);
         C.due("nothing has changed", x.ball(1), DOWN);
+        BumperBalls once = Check.with("law 1;pin righter 6 0 1 1;ball 2 2 2;");
+        C.due("to and fro behind one nudge", once.kept(12), 1);
+        C.due("to and fro behind one nudge", once.kept(20), 1);
         BumperBalls shaken = Check.with("law 3;ball 3 0 1;");
         shaken.nudge();
         C.due("whatever shakes are", shaken.kept(20), 1);
@@ -520,10 +543,13 @@ final class ForetoldTest {
 
     private static void keptAtTheLastStep() {
         C.sentence("KEPT: LOST by the last of these");
-        for (int y = 0; y < 6; y++) {
-            BumperBalls x = Check.with("law 1;ball 3 " + y + " 2;");
-            for (int n = 1; n <= 20; n++) {
-                C.due("kept(" + n + ") from y " + y, x.kept(n), n <= y ? 0 : 1);
+        for (int cell = 0; cell < 42; cell++) {
+            for (int way = 0; way < 4; way++) {
+                BumperBalls x = Check.with("law 1;ball " + cell % 7 + " " + cell / 7 + " " + way + ";");
+                int lasts = way == UP ? 12 - cell / 7 : way == DOWN ? cell / 7 + 1 : 99;
+                for (int n = 1; n <= 20; n++) {
+                    C.due("kept(" + n + ") from " + cell + ", " + way, x.kept(n), n < lasts ? 0 : 1);
+                }
             }
         }
         BumperBalls x = Check.with("law 5;ball 0 0 2;");
@@ -532,6 +558,25 @@ final class ForetoldTest {
         C.due("BAD ahead of it", x.kept(21), BAD);
         C.due("no table", new BumperBalls().kept(1), STATE);
         C.due("no table ahead of BAD", new BumperBalls().kept(0), STATE);
+    }
+
+    /** Six gates, all open: by them a ball in the last cell can stand in the most places. */
+    private static void keptAmongGates() {
+        C.sentence("KEPT: gates as now");
+        BumperBalls x = Check.with("law 20;pin gate 0 5 0 1;pin gate 1 5 0 1;pin gate 2 5 0 1;pin gate 3 5 0 1;pin gate 4 5 0 1;"
+            + "pin gate 5 5 0 1;ball 6 0 0;");
+        for (int pin = 0; pin < 6; pin++) {
+            x.put(28 + pin, UP);
+            x.steps(1);
+            C.due("open", x.pin(pin, 4), 1);
+        }
+        x.put(41, LEFT);
+        C.due("through all of them and back", x.kept(20), 0);
+        C.due("nudged(0, 1)", x.nudged(0, 1), 0);
+        C.due("open yet", x.pin(5, 4), 1);
+        x.put(34, UP);
+        C.due("lost in seven", x.kept(7), 0);
+        C.due("lost in eight", x.kept(8), 1);
     }
 
     private static void heard(BumperBalls x, int row, int i, int n, int ways, int least) {

@@ -41,6 +41,7 @@ final class StepsTest {
         fullAtTheEnd();
         fullByWhatMightBe();
         fullNoMore();
+        struckByEachStep();
         actsOfSteps();
         actsThatAreKept();
         nothingBecomesAnother();
@@ -592,6 +593,31 @@ final class StepsTest {
         Check.read(x, EMPTY);
         C.due("count(2)", x.count(2), 0);
         C.due("steps(24)", x.steps(24), 24);
+    }
+
+    /** A ball that strikes a pin by each step: to and fro between two bumpers side by side. */
+    private static void struckByEachStep() {
+        C.sentence("SCORE, how often it was STRUCK: by 9999 STEPS");
+        BumperBalls x = Check.with("law 9;pin bumper 3 3 0 99;pin bumper 4 3 1 99;ball 3 2 0;");
+        x.steps(1);
+        x.nudge();
+        x.nudge();
+        x.nudge();
+        for (int k = 0; k < 416; k++) {
+            x.steps(24);
+        }
+        C.due("steps(14)", x.steps(14), 14);
+        C.due("count(2)", x.count(2), 9999);
+        C.due("ball(4)", x.ball(4), 99 * 9999);
+        C.due("pin(0, 3)", x.pin(0, 3), 5000);
+        C.due("pin(1, 3)", x.pin(1, 3), 4999);
+        C.due("ball(5)", x.ball(5), 0);
+        C.due("ahead(200, 2)", x.ahead(200, 2), 99 * (9999 + 200));
+        C.due("ask(0, 0)", x.ask(0, 0), 99 + 5000);
+        C.due("steps(1)", x.steps(1), Check.FULL);
+        C.due("undo()", x.undo(), 23);
+        C.due("ball(4)", x.ball(4), 99 * 9998);
+        C.due("pin(0, 3)", x.pin(0, 3), 4999);
     }
 
     private static void actsOfSteps() {
