@@ -155,7 +155,7 @@ final class RefusedTest {
     private static void nudgeFlip() {
         C.sentence("nudge, flip: STATE: no TABLE, it is LOST, it cannot be.");
         refused("nudge()", x -> x.nudge(), STATE, Twins.BARE, Twins.LOST, Twins.LATE_LOST);
-        refused("flip()", x -> x.flip(), STATE, Twins.BARE, Twins.PLAYED, Twins.LOST, Twins.LATE_LOST);
+        refused("flip()", x -> x.flip(), STATE, Twins.BARE, Twins.PLAYED, Twins.RESTORED, Twins.LOST, Twins.LATE_LOST);
     }
 
     private static void put() {
@@ -176,7 +176,7 @@ final class RefusedTest {
 
     private static void undo() {
         C.sentence("undo: STATE: none.");
-        refused("undo()", x -> x.undo(), STATE, Twins.BARE);
+        refused("undo()", x -> x.undo(), STATE, Twins.BARE, Twins.RESTORED);
     }
 
     private static void ballPin() {

@@ -15,6 +15,8 @@ enum Twins {
     LOST,
     /** The same, with as many bytes on the tape as it can have. */
     FED,
+    /** The same, as an image kept it: no act can be undone. */
+    RESTORED,
     /** As many steps are gone as can be. */
     LATE,
     /** The same, the ball is lost. */
@@ -80,6 +82,9 @@ enum Twins {
         x.nudge();
         if (this == LOST) {
             x.nudge();
+        }
+        if (this == RESTORED) {
+            x.restore(1);
         }
         if (this == FED) {
             Check.feed(x, NEXT + " ".repeat(400 - NEXT.length()));
