@@ -8,7 +8,9 @@ final class ForetoldTest {
     private static final int UP = 0, RIGHT = 1, DOWN = 2, LEFT = 3;
     private static final String EMPTY = "law 5;ball 0 0 1;";
     private static final String LAMP = "law 5;pin lamp 3 2 6 50;ball 3 0 0;";
-    // Two long walks. None is known that comes nearer to the bounds of 500 and 400 (NOTES.md).
+    // The bounds of 500 and 400 are never reached: no table has longer walks than 163 and 160 (NOTES.md).
+    private static final String LOST_BEHIND_163 = "law 9;pin righter 0 0 0 1;pin gate 5 0 1 1;pin gate 0 4 2 1;"
+        + "pin lefter 5 4 3 1;pin lefter 0 5 4 1;pin lefter 5 5 5 1;ball 5 1 2;";
     private static final String LOST_BEHIND_162 = "law 5;pin lefter 6 0 0 1;pin righter 1 5 2 1;pin righter 1 4 1 1;"
         + "pin righter 6 5 0 1;pin gate 1 0 0 1;pin gate 6 4 2 1;ball 1 1 0;";
     private static final String AGAIN_BEHIND_160 = "law 5;pin righter 0 0 1 1;pin gate 3 4 2 1;pin righter 6 4 2 1;"
@@ -195,6 +197,16 @@ final class ForetoldTest {
         C.due("steps", x.steps(24), 24);
         C.due("lasts(0)", x.lasts(0), 138);
         C.due("kept(20)", x.kept(20), 0);
+        BumperBalls longest = Check.with(LOST_BEHIND_163);
+        longest.steps(1);
+        longest.put(12, DOWN);
+        longest.steps(1);
+        longest.nudge();
+        longest.nudge();
+        C.due("in a gate, up", longest.ball(0) * 4 + longest.ball(1), 20);
+        C.due("lasts(0) of the longest", longest.lasts(0), 163);
+        C.due("ahead(162, 0)", longest.ahead(162, 0) == NONE ? 1 : 0, 0);
+        C.due("ahead(163, 0)", longest.ahead(163, 0), NONE);
     }
 
     private static void againBehindOneAtLeast() {
