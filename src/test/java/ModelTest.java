@@ -1,44 +1,54 @@
 import java.util.Random;
 
-/** Long runs of calls, each asked of the program and of the model; the same runs each time. */
+/** Long runs of calls, each asked of the program and of the model, two runs by turns; the same each time. */
 final class ModelTest {
     private static final int RUNS = 1500, CALLS = 400;
     private static final int[] WILD = {-1, 41, 42, 400, 1000, Integer.MIN_VALUE, Integer.MAX_VALUE};
     private static final String[] SORTS = {"bumper", "lefter", "righter", "lamp", "gate"};
     private static final Check C = new Check("model");
 
+    private final int seed;
     private final Random random;
     private final BumperBalls x = new BumperBalls();
     private final Model m = new Model();
     private int calls = 0;
 
     private ModelTest(int seed) {
+        this.seed = seed;
         random = new Random(seed);
     }
 
     public static void main(String[] args) {
         C.sentence("all, by turns");
-        for (int seed = 0; seed < RUNS; seed++) {
-            new ModelTest(seed).run(seed);
+        for (int seed = 0; seed < RUNS; seed += 2) {
+            byTurns(new ModelTest(seed), new ModelTest(seed + 1));
         }
         C.end();
     }
 
-    private void run(int seed) {
-        if (seed % 10 != 0) {
+    private static void byTurns(ModelTest one, ModelTest other) {
+        while (one.calls < CALLS || other.calls < CALLS) {
+            one.goOn();
+            other.goOn();
+        }
+    }
+
+    /** Of ten runs one begins without a table. */
+    private void goOn() {
+        if (calls >= CALLS) {
+            return;
+        }
+        if (calls == 0 && seed % 10 != 0) {
             feed(text());
             due("table()", x.table(), m.table());
+        } else if (random.nextInt(60) == 0) {
+            feed(random.nextInt(3) == 0 ? spoiled(text()) : text());
+            due("table()", x.table(), m.table());
+            due("fault()", x.fault(), m.fault());
+        } else {
+            one(random.nextInt(33));
         }
-        while (calls < CALLS) {
-            if (random.nextInt(60) == 0) {
-                feed(random.nextInt(3) == 0 ? spoiled(text()) : text());
-                due("table()", x.table(), m.table());
-                due("fault()", x.fault(), m.fault());
-            } else {
-                one(random.nextInt(33));
-            }
-            due("status()", x.status(), m.status());
-        }
+        due("status()", x.status(), m.status());
     }
 
     private void due(String call, int got, int want) {

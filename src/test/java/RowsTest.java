@@ -8,6 +8,7 @@ final class RowsTest {
 
     public static void main(String[] args) {
         noTableAtFirst();
+        nothingIsShared();
         rowsAreMissingAtFirst();
         eightRows();
         threeLanes();
@@ -36,7 +37,10 @@ final class RowsTest {
 
     private static void noTableAtFirst() {
         C.sentence("BumperBalls(): No TABLE.");
-        BumperBalls x = new BumperBalls();
+        asNew(new BumperBalls());
+    }
+
+    private static void asNew(BumperBalls x) {
         for (int what = 0; what < 6; what++) {
             C.due("count(" + what + ")", x.count(what), 0);
             C.due("ball(" + what + ")", x.ball(what), Check.STATE);
@@ -49,6 +53,22 @@ final class RowsTest {
         C.due("trace(0)", x.trace(0), Check.NONE);
         C.due("restore(0)", x.restore(0), Check.STATE);
         C.due("restore(1)", x.restore(1), Check.STATE);
+    }
+
+    private static void nothingIsShared() {
+        C.sentence("BumperBalls(): No TABLE., whatever other objects have");
+        BumperBalls ahead = new BumperBalls();
+        BumperBalls used = Twins.FED.made();
+        used.image(0);
+        asNew(ahead);
+        asNew(new BumperBalls());
+        C.due("the other one's rows", used.count(0), 5);
+        C.due("its bytes", used.count(5), 400);
+        C.due("its pins", used.count(1), 5);
+        C.due("its image", used.restore(0), 1);
+        for (int row = 0; row < 8; row++) {
+            C.due("drop(" + row + ")", ahead.drop(row), Check.NULL);
+        }
     }
 
     private static void rowsAreMissingAtFirst() {
